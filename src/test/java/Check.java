@@ -5,18 +5,36 @@ final class Check {
     static final Class<? extends RuntimeException> UNSUPPORTED = UnsupportedOperationException.class;
     static final Class<? extends RuntimeException> STATE = IllegalStateException.class;
 
+    /** No cents, as the document has them: below and above, and such as look right when cut down to an int. */
+    static final long[] NO_CENTS = {
+        -1, 400000001, Long.MIN_VALUE, Long.MAX_VALUE, 1L << 32, (1L << 32) + 5, 5 - (1L << 32)};
+
+    private static final int KEPT_ENTRIES = 3000;
+
+    private static String sentence = "";
+    private static int sentences = 0;
     private static int wrong = 0;
     private static int asked = 0;
 
     private Check() {
     }
 
+    /** What is asked from here on tests this sentence of the document. */
+    static void sentence(String text) {
+        sentence = "\"" + text + "\": ";
+        sentences++;
+    }
+
     static void due(String what, long want, long got) {
         asked++;
         if (want != got) {
-            wrong++;
-            System.out.println(what + ": answered " + got + ", due is " + want);
+            tellWrong(what + ": answered " + got + ", due is " + want);
         }
+    }
+
+    private static void tellWrong(String text) {
+        wrong++;
+        System.out.println(sentence + text);
     }
 
     /** The call throws exactly this exception, and changes nothing that can be asked of the desk. */
@@ -30,13 +48,16 @@ final class Check {
             got = e.getClass().getSimpleName();
         }
         if (!got.equals(want.getSimpleName())) {
-            wrong++;
-            System.out.println(what + ": threw " + got + ", due is " + want.getSimpleName());
+            tellWrong(what + ": threw " + got + ", due is " + want.getSimpleName());
         }
         if (!before.equals(picture(desk))) {
-            wrong++;
-            System.out.println(what + ": changed what the desk tells");
+            tellWrong(what + ": changed what the desk tells");
         }
+    }
+
+    /** Numbers below and above those of count things, 0, 1, .., also such as are far off. */
+    static int[] noNumbers(int count) {
+        return new int[] {-1, count, count + 1, Integer.MIN_VALUE, Integer.MAX_VALUE};
     }
 
     /** All of a claim but its rank: state, amount, debt, got, paid, reserved, net, due, open. */
@@ -80,7 +101,13 @@ final class Check {
         for (int rank = 0; rank < 8; rank++) {
             text.append(desk.percentage(rank)).append(' ').append(desk.greatest(rank)).append(' ');
         }
-        return text.append(desk.entries()).toString();
+        text.append(desk.entries());
+        for (int i = 0; i < desk.entries() && i < KEPT_ENTRIES; i++) {
+            for (int what = 0; what < 3; what++) {
+                text.append(' ').append(desk.entry(i, what));
+            }
+        }
+        return text.toString();
     }
 
     /** A desk whose asset 0 was realised for these cents. */
@@ -92,7 +119,8 @@ final class Check {
     }
 
     static void finish() {
-        System.out.println(asked + " answers asked, " + wrong + " wrong");
+        String of = sentences == 0 ? "" : " for " + sentences + " sentences";
+        System.out.println(asked + " answers asked" + of + ", " + wrong + " wrong");
         if (wrong != 0) {
             System.exit(1);
         }

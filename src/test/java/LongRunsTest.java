@@ -8,13 +8,13 @@ public final class LongRunsTest {
     private final TrusteeDesk desk = new TrusteeDesk();
     private final SlowDesk slow = new SlowDesk();
     private final int run;
-    private long seed;
+    private final Mix mix;
     private int claims = 0;
     private int assets = 0;
 
     private LongRunsTest(int run) {
         this.run = run;
-        this.seed = run * 7919L + 17;
+        this.mix = new Mix(run * 7919L + 17);
     }
 
     public static void main(String[] args) {
@@ -159,9 +159,7 @@ public final class LongRunsTest {
         return 1 + below(run % 2 == 0 ? 300 : 90000);
     }
 
-    /** A row of numbers that looks mixed and is the same in each run of the test. */
     private int below(int bound) {
-        seed = seed * 6364136223846793005L + 1442695040888963407L;
-        return (int) Math.floorMod(seed >>> 33, (long) bound);
+        return mix.below(bound);
     }
 }
