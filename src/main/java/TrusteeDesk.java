@@ -97,7 +97,7 @@ public final class TrusteeDesk {
             throw new IllegalStateException("the asset or the claim does not allow a security");
         }
         pledge.add(holder, limit);
-        holder.livePledges++;
+        holder.unrealisedSecurities++;
         return pledge.count;
     }
 
@@ -211,7 +211,7 @@ public final class TrusteeDesk {
         dropContested();
         serveThrough(RANKS - 1);
         for (int rank = 0; rank < RANKS; rank++) {
-            payRests(rank);
+            payUnpaidNets(rank);
         }
         ended = true;
         return cash;
@@ -303,7 +303,7 @@ public final class TrusteeDesk {
         return claim.dueAt(percentages[claim.rank]);
     }
 
-    /** Whether a rank before this one, with a claim that is not OUT, has not its whole percentage. */
+    /** An OUT claim gets nothing any more, so it keeps no rank behind it waiting. */
     private boolean isBlocked(int rank) {
         for (int i = 0; i < claimCount; i++) {
             Claim other = claims[i];
@@ -314,7 +314,7 @@ public final class TrusteeDesk {
         return false;
     }
 
-    /** What a dividend would take from the cash. */
+    /** Counted before a cent moves, as a dividend that the cash can't bear changes nothing. */
     private long needFor(int rank, int percentage) {
         long need = 0;
         for (int i = 0; i < claimCount; i++) {
@@ -328,7 +328,7 @@ public final class TrusteeDesk {
         return need;
     }
 
-    /** Serves all claims up to a rank with what they lack, as far as the cash goes: how many cents. */
+    /** A dividend has looked at the cash before it comes here, so the cash cuts short a catching up alone. */
     private long serveThrough(int lastRank) {
         long served = 0;
         for (int rank = 0; rank <= lastRank; rank++) {
@@ -361,14 +361,14 @@ public final class TrusteeDesk {
             Claim holder = sold.holders[i];
             long part = Math.min(Math.min(sold.limits[i], holder.net()), cents - given);
             holder.got += part;
-            holder.livePledges--;
+            holder.unrealisedSecurities--;
             given += part;
             journal.note(KIND_GOT, holder.number, part);
         }
         return given;
     }
 
-    /** What the document calls to settle: the answer is what the claim was paid of its reserve. */
+    /** The document says that a claim settles; the public call has that name, so it can't be used again. */
     private long resolveReserve(Claim claim) {
         if (claim.isOpen() || claim.reserved == 0) {
             return 0;
@@ -397,36 +397,36 @@ public final class TrusteeDesk {
         }
     }
 
-    private void payRests(int rank) {
-        long allRests = 0;
+    private void payUnpaidNets(int rank) {
+        long allUnpaid = 0;
         for (int i = 0; i < claimCount; i++) {
             if (claims[i].rank == rank) {
-                allRests += claims[i].rest();
+                allUnpaid += claims[i].unpaidNet();
             }
         }
-        if (cash < allRests) {
-            shareCash(rank, allRests);
+        if (cash < allUnpaid) {
+            shareCash(rank, allUnpaid);
             return;
         }
         for (int i = 0; i < claimCount; i++) {
             if (claims[i].rank == rank) {
-                payAtEnd(claims[i], claims[i].rest());
+                payAtEnd(claims[i], claims[i].unpaidNet());
             }
         }
     }
 
-    /** Called only where the rests of the rank are above the cash, and so above 0. */
-    private void shareCash(int rank, long allRests) {
+    /** What is unpaid is above the cash here, and so above 0; it is looked at all the same, as it divides. */
+    private void shareCash(int rank, long allUnpaid) {
         long pot = cash;
         long leftOver = pot;
         long[] shares = new long[claimCount];
         long[] remainders = new long[claimCount];
         for (int i = 0; i < claimCount; i++) {
-            if (claims[i].rank == rank && allRests > 0) {
-                // A rest is at most 4 * 10^8 and the pot at most 8 * 10^9, so the product fits a long.
-                long product = claims[i].rest() * pot;
-                shares[i] = product / allRests;
-                remainders[i] = product % allRests;
+            if (claims[i].rank == rank && allUnpaid > 0) {
+                // An unpaid net is at most 4 * 10^8 and the pot at most 8 * 10^9, so the product fits a long.
+                long product = claims[i].unpaidNet() * pot;
+                shares[i] = product / allUnpaid;
+                remainders[i] = product % allUnpaid;
                 leftOver -= shares[i];
             }
         }
@@ -494,8 +494,7 @@ public final class TrusteeDesk {
         long got;
         long paid;
         long reserved;
-        /** In how many assets that are not realised it has security. */
-        int livePledges;
+        int unrealisedSecurities;
 
         Claim(int number, int rank, long amount) {
             this.number = number;
@@ -505,7 +504,7 @@ public final class TrusteeDesk {
         }
 
         boolean isOpen() {
-            return state == CONTESTED || (state != OUT && livePledges > 0);
+            return state == CONTESTED || (state != OUT && unrealisedSecurities > 0);
         }
 
         boolean isFresh() {
@@ -524,8 +523,7 @@ public final class TrusteeDesk {
             return Math.max(0L, dueAt(percentage) - paid - reserved);
         }
 
-        /** What is left of the net to be paid. */
-        long rest() {
+        long unpaidNet() {
             return Math.max(0L, net() - paid);
         }
     }
@@ -570,7 +568,7 @@ public final class TrusteeDesk {
         final int[] kinds;
         final int[] owners;
         final long[] cents;
-        /** All entries, those that are not kept too. */
+        /** It goes on where no more entries are kept, as they are entries all the same. */
         int count;
 
         Journal() {
